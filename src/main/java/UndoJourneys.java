@@ -115,7 +115,7 @@ public final class UndoJourneys {
     public int step(int journey, int step, int what)
             throws IndexOutOfBoundsException, NoSuchElementException, IllegalArgumentException {
         checkJourney(journey);
-        if (step < 0 || step >= now.setup.stepCount[journey]) {
+        if (step < 0 || step >= now.setup.stepsOf(journey)) {
             throw new NoSuchElementException("no such step");
         }
         checkWhat(what, STEP_NUMBERS);
@@ -235,7 +235,7 @@ public final class UndoJourneys {
         for (int what = 0; what < JOURNEY_NUMBERS; what++) {
             sum = 31 * sum + now.numberOfJourney(journey, what);
         }
-        int end = now.setup.endOfSteps(journey);
+        int end = now.setup.endStep[journey];
         for (int step = now.setup.firstStep[journey]; step < end; step++) {
             for (int what = FIRST_CHANGING_STEP_NUMBER; what < STEP_NUMBERS; what++) {
                 sum = 31 * sum + now.numberOfStep(step, what);
@@ -302,7 +302,8 @@ public final class UndoJourneys {
         final int[] start = new int[MAX_JOURNEYS];
         final int[] stageCount = new int[MAX_JOURNEYS];
         final int[] firstStep = new int[MAX_JOURNEYS];
-        final int[] stepCount = new int[MAX_JOURNEYS];
+        /** The step behind the last one of a journey. */
+        final int[] endStep = new int[MAX_JOURNEYS];
 
         int steps = 0;
         final int[] stageOf = new int[MAX_STEPS];
@@ -312,8 +313,8 @@ public final class UndoJourneys {
         final int[] failures = new int[MAX_STEPS];
         final int[] repeats = new int[MAX_STEPS];
 
-        int endOfSteps(int journey) {
-            return firstStep[journey] + stepCount[journey];
+        int stepsOf(int journey) {
+            return endStep[journey] - firstStep[journey];
         }
 
         boolean hasRoomForStock() {
@@ -340,6 +341,7 @@ public final class UndoJourneys {
             if (hasRoomForJourney()) {
                 start[journeys] = startOfJourney;
                 firstStep[journeys] = steps;
+                endStep[journeys] = steps;
                 journeys++;
             }
         }
@@ -354,7 +356,7 @@ public final class UndoJourneys {
                 failures[steps] = undoFailures;
                 repeats[steps] = again;
                 steps++;
-                stepCount[journeys - 1]++;
+                endStep[journeys - 1] = steps;
                 stageCount[journeys - 1] = stage + 1;
             }
         }
@@ -664,7 +666,7 @@ public final class UndoJourneys {
                 case 0: return journeyState[journey];
                 case 1: return setup.start[journey];
                 case 2: return setup.stageCount[journey];
-                case 3: return setup.stepCount[journey];
+                case 3: return setup.stepsOf(journey);
                 case 4: return journeyState[journey] == FORWARD ? presentStage[journey] : -1;
                 case 5: return rests(journey) ? restTime[journey] : -1;
                 default: return amountOwed(journey);
@@ -699,7 +701,7 @@ public final class UndoJourneys {
         /** The place-th of the steps that are done, from behind; -1 if there are not so many. */
         int doneStepFromBehind(int journey, int place) {
             int before = place;
-            for (int step = setup.endOfSteps(journey) - 1; step >= setup.firstStep[journey]; step--) {
+            for (int step = setup.endStep[journey] - 1; step >= setup.firstStep[journey]; step--) {
                 if (stepState[step] == DONE) {
                     if (before == 0) {
                         return step;
@@ -749,7 +751,7 @@ public final class UndoJourneys {
         /** The sum of the amounts of the steps of this stock that are running or done. */
         private int amountTakenBy(int journey, int stock) {
             int sum = 0;
-            int end = setup.endOfSteps(journey);
+            int end = setup.endStep[journey];
             for (int step = setup.firstStep[journey]; step < end; step++) {
                 boolean isTaken = stepState[step] == RUNNING || stepState[step] == DONE;
                 if (isTaken && setup.stockOf[step] == stock) {
@@ -774,7 +776,7 @@ public final class UndoJourneys {
                 return 0;
             }
             int sum = 0;
-            int end = setup.endOfSteps(journey);
+            int end = setup.endStep[journey];
             for (int step = setup.firstStep[journey]; step < end; step++) {
                 if (stepState[step] == DONE) {
                     sum += setup.amount[step];
@@ -819,7 +821,7 @@ public final class UndoJourneys {
 
         private int nextEventTimeForward(int journey) {
             int next = BEYOND_ALL;
-            int end = setup.endOfSteps(journey);
+            int end = setup.endStep[journey];
             for (int step = setup.firstStep[journey]; step < end; step++) {
                 if (isPresent(journey, step) && stepState[step] == READY) {
                     return time;
@@ -856,7 +858,7 @@ public final class UndoJourneys {
         }
 
         private void moveForward(int journey) {
-            int end = setup.endOfSteps(journey);
+            int end = setup.endStep[journey];
             for (int step = setup.firstStep[journey]; step < end; step++) {
                 if (isPresent(journey, step)) {
                     moveStep(journey, step);
@@ -920,7 +922,7 @@ public final class UndoJourneys {
         }
 
         private boolean stageHas(int journey, int state) {
-            int end = setup.endOfSteps(journey);
+            int end = setup.endStep[journey];
             for (int step = setup.firstStep[journey]; step < end; step++) {
                 if (isPresent(journey, step) && stepState[step] == state) {
                     return true;
@@ -930,7 +932,7 @@ public final class UndoJourneys {
         }
 
         private boolean stageIsOver(int journey) {
-            int end = setup.endOfSteps(journey);
+            int end = setup.endStep[journey];
             for (int step = setup.firstStep[journey]; step < end; step++) {
                 if (isPresent(journey, step) && isOpen(step)) {
                     return false;
@@ -944,7 +946,7 @@ public final class UndoJourneys {
         }
 
         private void withdrawReadySteps(int journey) {
-            int end = setup.endOfSteps(journey);
+            int end = setup.endStep[journey];
             for (int step = setup.firstStep[journey]; step < end; step++) {
                 if (isPresent(journey, step) && stepState[step] == READY) {
                     stepState[step] = NOT_BEGUN;
@@ -959,7 +961,7 @@ public final class UndoJourneys {
                 return;
             }
             presentStage[journey] = stage;
-            int end = setup.endOfSteps(journey);
+            int end = setup.endStep[journey];
             for (int step = setup.firstStep[journey]; step < end; step++) {
                 if (isPresent(journey, step) && stepState[step] == NOT_BEGUN) {
                     stepState[step] = READY;
@@ -1016,7 +1018,7 @@ public final class UndoJourneys {
             if (stage < 0) {
                 return -1;
             }
-            int end = setup.endOfSteps(journey);
+            int end = setup.endStep[journey];
             for (int step = setup.firstStep[journey]; step < end; step++) {
                 if (isOpen(step)) {
                     stepState[step] = NOT_BEGUN;
@@ -1029,7 +1031,7 @@ public final class UndoJourneys {
         }
 
         private int firstOpenStage(int journey) {
-            int end = setup.endOfSteps(journey);
+            int end = setup.endStep[journey];
             for (int step = setup.firstStep[journey]; step < end; step++) {
                 if (isOpen(step)) {
                     return setup.stageOf[step];
