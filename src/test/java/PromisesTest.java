@@ -481,10 +481,10 @@ public final class PromisesTest {
         is("steps", 40, x.state(3));
         int[][] states = new int[8][2 * FULL_TICKS + 1];
         for (int ticks = 0; ticks <= 2 * FULL_TICKS; ticks++) {
+            UndoJourneys y = after(FULL, ticks);
             for (int journey = 0; journey < 8; journey++) {
-                states[journey][ticks] = x.journey(journey, 0);
+                states[journey][ticks] = y.journey(journey, 0);
             }
-            x.pass(1);
         }
         for (int time = 0; time <= FULL_TICKS; time++) {
             UndoJourneys y = after(FULL, time);
@@ -853,13 +853,11 @@ public final class PromisesTest {
 
     /** Behind an undo all goes on as if the change had not been made. */
     private void undoOfManyJourneys() {
-        UndoJourneys x = Texts.loaded(FULL);
-        UndoJourneys y = Texts.loaded(FULL);
         for (int time = 0; time < FULL_TICKS; time++) {
-            x.pass(1);
-            y.pass(1);
+            UndoJourneys x = after(FULL, time + 1);
+            UndoJourneys y = after(FULL, time + 1);
             y.pass(1 + time);
-            is("undo at " + time, Math.min(7, time + 2), y.undo());
+            is("undo at " + time, 2, y.undo());
             is("undo at " + time + ": data", x.checksum(), y.checksum());
             for (int journey = 0; journey < 7; journey++) {
                 is("undo at " + time + ": what comes", x.restsIn(journey), y.restsIn(journey));
