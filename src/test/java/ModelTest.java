@@ -7,6 +7,10 @@ public final class ModelTest {
     private static final int RUNS = 700;
     private static final int CALLS = 160;
     private static final int HELP_RUNS = 150;
+    private static final int WIDE_RUNS = 300;
+    private static final int WIDE_HELP_RUNS = 25;
+    /** The calls that an object may be used for, less those that a text is read with. */
+    private static final int WIDE_CALLS = 110;
 
     private final Check check = new Check("ModelTest");
     private final int[] seen = new int[64];
@@ -31,8 +35,16 @@ public final class ModelTest {
                 }
             }
         }
+        for (int run = 0; run < WIDE_RUNS && check.wrong() == 0; run++) {
+            wideRun(run);
+        }
         for (int run = 0; run < HELP_RUNS && check.wrong() == 0; run++) {
-            helpRun(run);
+            seed = 1000000 + run;
+            helpRun("help " + run, setup(), 12);
+        }
+        for (int run = 0; run < WIDE_HELP_RUNS && check.wrong() == 0; run++) {
+            seed = 2000000 + run;
+            helpRun("wide help " + run, wideSetup(), 200);
         }
         for (int run = 0; run < 20000 && check.wrong() == 0; run++) {
             seed = 7000000 + run;
@@ -47,14 +59,29 @@ public final class ModelTest {
         check.end();
     }
 
-    private void helpRun(int run) {
-        seed = 1000000 + run;
-        begin("help " + run);
-        load(setup());
+    /** A text with numbers of the whole ranges, and ticks by the dozen. */
+    private void wideRun(int run) {
+        seed = 3000000 + run;
+        begin("wide " + run);
+        load(wideSetup());
+        for (int call = 0; call < WIDE_CALLS && check.wrong() == 0; call++) {
+            if (below(3) == 0) {
+                int ticks = 1 + below(below(4) == 0 ? 200 : 30);
+                same("pass " + ticks, () -> x.pass(ticks), () -> m.pass(ticks));
+                compare();
+            } else {
+                call();
+            }
+        }
+    }
+
+    private void helpRun(String name, String text, int mostTicks) {
+        begin(name);
+        load(text);
         if (m.data.journeys.isEmpty()) {
             return;
         }
-        int ticks = 1 + below(12);
+        int ticks = 1 + below(mostTicks);
         same("pass " + ticks, () -> x.pass(ticks), () -> m.pass(ticks));
         int journey = below(m.data.journeys.size());
         int stock = below(m.data.stocks.size());
@@ -114,6 +141,42 @@ public final class ModelTest {
             }
         }
         return b.append(';').toString();
+    }
+
+    /** As many stocks, journeys and steps as there may be or as 700 bytes have room for, or somewhat fewer. */
+    private String wideSetup() {
+        StringBuilder b = new StringBuilder("trips;wait" + (1 + below(99)) + ";patience" + (1 + below(9)) + ";");
+        int stocks = 1 + below(6);
+        for (int i = 0; i < stocks; i++) {
+            b.append("stock").append(below(below(3) == 0 ? 10000 : 1500)).append(' ').append(1 + below(below(3) == 0 ? 9 : 3)).append(';');
+        }
+        int journeys = 1 + below(8);
+        int stepsLeft = 40;
+        for (int i = 0; i < journeys && stepsLeft > 0; i++) {
+            StringBuilder j = new StringBuilder("journey" + below(below(3) == 0 ? 1000 : 50));
+            int steps = wideSteps(j, stocks, stepsLeft);
+            if (b.length() + j.length() >= 700) {
+                break;
+            }
+            stepsLeft -= steps;
+            b.append(j).append(';');
+        }
+        return b.toString();
+    }
+
+    private int wideSteps(StringBuilder b, int stocks, int most) {
+        int stages = 1 + below(5);
+        int steps = 0;
+        for (int stage = 0; stage < stages && steps < most; stage++) {
+            int ofStage = Math.min(most - steps, 1 + below(3));
+            for (int step = 0; step < ofStage; step++) {
+                b.append(steps == 0 ? " " : step == 0 ? "then" : "and");
+                b.append(below(stocks)).append('*').append(1 + below(999)).append(':').append(1 + below(below(3) == 0 ? 99 : 9));
+                b.append(below(2) == 0 ? "undo" + below(10) : "").append(below(3) == 0 ? "again" + below(10) : "");
+                steps++;
+            }
+        }
+        return steps;
     }
 
     /** A text with more of one thing than is allowed, or just as many. */

@@ -195,6 +195,11 @@ public final class TextBoundariesTest extends Boundaries {
         is("load(0) of a new object", SYNTAX, x.load(0));
         is("its offset", 0, x.errorOffset());
         is("it is no change", -1, x.undo());
+        for (String text : new String[] {"trips;", "  trips;", ";"}) {
+            UndoJourneys y = withBuffer(text);
+            is("load(0) of " + text, SYNTAX, y.load(0));
+            is("the offset of load(0) of " + text, 0, y.errorOffset());
+        }
         reads(" ", SYNTAX, 1);
         reads(of700("", ""), SYNTAX, 700);
     }
